@@ -53,7 +53,8 @@ public final class ModelTest {
             case 0:
                 return oneOf(1000000, -1000000, 999999, -999999);
             case 1:
-                return below(9) > 0 ? below(2001) - 1000 : oneOf(1000001, -1000001, Integer.MAX_VALUE, Integer.MIN_VALUE);
+                return below(9) > 0 ? below(2001) - 1000
+                        : oneOf(1000001, -1000001, Integer.MAX_VALUE, Integer.MIN_VALUE);
             default:
                 return below(5) - 2;
         }
