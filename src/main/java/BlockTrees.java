@@ -376,11 +376,20 @@ public final class BlockTrees {
             return 0;
         }
         long size = Math.abs((long) number);
-        int top = 63 - Long.numberOfLeadingZeros(size);
+        int top = highestBit(size);
         long exponent = top - 8 + bias;
         long behind = (size << (places - top)) - (1L << places);
         long bits = (exponent << places) + behind;
         return number < 0 ? bits | Long.MIN_VALUE : bits;
+    }
+
+    /** The place of the highest bit that is 1 of a number that is above 0. */
+    private static int highestBit(long number) {
+        int top = 0;
+        while (top < 62 && number >> (top + 1) > 0) {
+            top++;
+        }
+        return top;
     }
 
     /** How many characters stand in the number; 0 if they may not be put. */

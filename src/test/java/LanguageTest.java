@@ -30,7 +30,7 @@ public final class LanguageTest {
         "\\bsynchronized\\b", "\\bassert\\b", "\\bthrow\\b", "\\bDouble\\b", "\\bFloat\\b", "\\bdouble\\b",
         "\\bfloat\\b", "\\bInteger\\b", "Exact\\(", "\\bObject\\b", "\\bString\\b", "\\bhashCode\\b", "\\bequals\\b",
         "\\btoString\\b", "\\bSystem\\.(?!arraycopy)", "\\bMath\\.(?!max\\(|min\\(|abs\\()",
-        "\\bLong\\.(?!numberOfLeadingZeros|MIN_VALUE)"};
+        "\\bLong\\.(?!MIN_VALUE)"};
 
     private static final Due due = new Due();
 

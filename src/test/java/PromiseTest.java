@@ -168,6 +168,10 @@ public final class PromiseTest {
         x = told("(((00d5d5)000)000)");
         is("4 a 4 of two 2s", x.shrink(0), 1);
         is("4 a 4 of two 2s", x.block(0, 0, 0, 1), 4);
+        // 1 + 5 + 5 = 11 is less than twice 8.
+        x = told("(((000d1)(000d1)00)000)");
+        is("4 an 8 of two 2s", x.isOne(0, 0, 0, 8), 1);
+        is("4 an 8 of two 2s", x.shrink(0), 0);
         x = told("((00(000d1)d1)000)");
         is("4 no product", x.isOne(0, 0, 0, 8), 0);
         is("4 parts first", x.shrink(0), 0);
@@ -211,6 +215,13 @@ public final class PromiseTest {
         is("5 FULL now", x.block(0, 8, 8, 0), BlockTrees.FULL);
         entries("5 sums", x, 0, 6, 1, 1, 4, 4);
         entries("5 sums", x, 8, 6, 5, 5, 2, 2);
+
+        x = told("((d1d1d1d1)(d1d1d1d1)(d1d1d1d1)(d1d1d1d1))");
+        x.copy(1, 0);
+        is("5 CUT twice", x.add(0, 1, 2), 5 + 256);
+        for (int row = 0; row < 16; row++) {
+            entries("5 each entry once", x, row, 0, 3, 3, 3, 3, 3, 3, 3, 3, 3, 3, 3, 3, 3, 3, 3, 3);
+        }
 
         x = told("(000d1)");
         Due.tell(x, 1, "d1");
@@ -272,6 +283,12 @@ public final class PromiseTest {
         entries("6 FULL", x, 9, 0, 2, 3, 3);
         entries("6 FULL", x, 10, 0, 3, 3, 3);
         is("6 change", x.count(2), 2);
+        BlockTrees deep = told("(((0d1f2,3d0)000)000)");
+        deep.turn(0);
+        is("6 blocks of 2, too", deep.block(0, 0, 2, 0), BlockTrees.FULL);
+        is("6 blocks of 2, too", deep.block(0, 2, 0, 0), BlockTrees.THIN);
+        entries("6 blocks of 2, too", deep, 0, 2, 2, 3);
+        entries("6 blocks of 2, too", deep, 1, 2, 3, 3);
         is("6 trace below 0", told("d-5").turn(0), 100000000 - 80);
         is("6 EMPTY", x.turn(3), 100000000);
         for (int wrong : NO_MATRIX) {
