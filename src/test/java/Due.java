@@ -53,6 +53,24 @@ final class Due {
         return trees.tell(matrix);
     }
 
+    /** A new object whose matrices, from 0 on, are what these texts tell. */
+    static BlockTrees told(String... texts) {
+        BlockTrees trees = new BlockTrees();
+        for (int matrix = 0; matrix < texts.length; matrix++) {
+            if (tell(trees, matrix, texts[matrix]) < 0) {
+                throw new IllegalStateException("a test's text has a fault: " + texts[matrix]);
+            }
+        }
+        return trees;
+    }
+
+    /** Each entry of the matrix becomes 1000000 or, if the sign is -1, -1000000; the matrix 3 is used up for it. */
+    static void fill(BlockTrees trees, int matrix, int sign) {
+        tell(trees, matrix, "u999v" + 999 * sign);
+        tell(trees, 3, "d999");
+        trees.add(matrix, 3, 99 * sign);
+    }
+
     static int fault(BlockTrees trees, String text) {
         trees.wipe();
         put(trees, text);
