@@ -13,6 +13,7 @@ public final class EdgeAnswersTest {
     public static void main(String[] args) {
         newObject();
         atEachPlace();
+        eachPlaceCounts();
         blockWhats();
         blockOfEachDepth();
         ofWhats();
@@ -96,6 +97,29 @@ public final class EdgeAnswersTest {
         }
         for (int m : NO_MATRIX) {
             is("no matrix " + m, x.at(m, 0, 0), BlockTrees.NO_SUCH);
+        }
+    }
+
+    /** No answer about all entries leaves one of them out, the first and the last ones neither. */
+    private static void eachPlaceCounts() {
+        for (int cell = 0; cell < 256; cell++) {
+            int i = cell / 16;
+            int j = cell % 16;
+            String at = ", entry " + i + ", " + j;
+            BlockTrees x = new BlockTrees();
+            x.entry(0, i, j, 5);
+            x.entry(1, i, j, -10);
+            is("filled" + at, x.of(0, 6), 1);
+            is("trace" + at, x.of(0, 7), i == j ? 100000005 : 100000000);
+            is("greatest" + at, x.of(0, 8), MILLION + 5);
+            is("least" + at, x.of(1, 9), MILLION - 10);
+            is("product" + at, x.product(0, i, 7, 3), 5 * (7 + 3 * j));
+            is("mean" + at, x.mean(0), Double.doubleToLongBits(5 / 256.0));
+            is("far" + at, x.far(0, 1), 15);
+            is("isOne" + at, x.isOne(0, 0, 0, 16), 1);
+            is("times" + at, x.bestTimes(1, 0, 0), 102);
+            is("entries" + at, x.bestTimes(1, 0, 1), 256);
+            is("depth" + at, x.of(0, 1), 3);
         }
     }
 
@@ -369,12 +393,14 @@ public final class EdgeAnswersTest {
         is("nothing", x.share(0), Float.floatToIntBits(0.0f));
         for (int block = 0; block < 64; block++) {
             x.entry(0, block / 8 * 2, block % 8 * 2, 1);
-            is("of " + x.of(0, 0), x.share(0), Float.floatToIntBits(x.of(0, 0) / 256f));
+            int room = x.of(0, 0);
+            is("of " + room, x.share(0), Float.floatToIntBits(room / 256f));
         }
         is("the most", x.share(0), Float.floatToIntBits(277f / 256));
         for (int block = 0; block < 64; block++) {
             x.clear(0, block / 8 * 2, block % 8 * 2);
-            is("of " + x.of(0, 0), x.share(0), Float.floatToIntBits(x.of(0, 0) / 256f));
+            int room = x.of(0, 0);
+            is("of " + room, x.share(0), Float.floatToIntBits(room / 256f));
         }
         is("just one", Due.told("(0000)").share(0), Float.floatToIntBits(1f / 256));
         is("just 256", Due.told("f0").share(0), Float.floatToIntBits(1f));

@@ -6,12 +6,17 @@ public final class EdgeChangesTest {
     private static final int MILLION = 1000000;
     private static final int[] NO_MATRIX = {-1, 4, Integer.MIN_VALUE, Integer.MAX_VALUE};
 
+    private interface Change {
+        int on(BlockTrees x);
+    }
+
     private static final Due due = new Due();
 
     public static void main(String[] args) {
         tellWithinTheMatrices();
         tellEmptiesThePad();
         tellReturnsTheRoom();
+        nothingIsLeftOfDeepBlocks();
         entryOfEachPlace();
         entryValues();
         entryCutsByTheSort();
@@ -26,6 +31,7 @@ public final class EdgeChangesTest {
         addBlockByBlock();
         addWithOneOfBothCut();
         addLeavesTheOther();
+        deepBlocksThatBecomeOne();
         turnOfEachSort();
         turnOfDeepBlocks();
         turnReturnsTheTrace();
@@ -104,6 +110,40 @@ public final class EdgeChangesTest {
             BlockTrees x = Due.told("f1,2,3");
             is("room of " + texts[k], Due.tell(x, 0, texts[k]), rooms[k]);
             is("nothing is left of what there was " + texts[k], x.of(0, 6), 0);
+        }
+    }
+
+    /** What becomes one block has no depth, however deep it was; and it is cut by its own sort again. */
+    private static void nothingIsLeftOfDeepBlocks() {
+        Change[] whole = {x -> Due.tell(x, 0, "0"), x -> Due.tell(x, 0, "d1"), x -> Due.tell(x, 0, "f1,2"),
+            x -> Due.tell(x, 0, "(0d1f1,2(0000))"), x -> x.copy(0, 2), x -> x.copy(0, 3)};
+        for (int k = 0; k < whole.length; k++) {
+            BlockTrees x = new BlockTrees();
+            BlockTrees fresh = new BlockTrees();
+            Due.tell(x, 2, "(0(0d1f1,2(0000))d2(0000))");
+            Due.tell(fresh, 2, "(0(0d1f1,2(0000))d2(0000))");
+            for (int block = 0; block < 64; block++) {
+                x.entry(0, block / 8 * 2, block % 8 * 2, block + 1);
+            }
+            is("as deep as it can be", x.of(0, 5), 21);
+            is("the same room " + k, whole[k].on(x), whole[k].on(fresh));
+            same("become " + k, x, fresh);
+            x.entry(0, 9, 9, 77);
+            fresh.entry(0, 9, 9, 77);
+            same("cut again " + k, x, fresh);
+        }
+    }
+
+    private static void same(String what, BlockTrees x, BlockTrees fresh) {
+        for (int number = 0; number <= 10; number++) {
+            is(what + ", of " + number, x.of(0, number), fresh.of(0, number));
+        }
+        for (int block = 0; block < 64; block++) {
+            int i = block / 8 * 2;
+            int j = block % 8 * 2 + 1;
+            is(what + ", sort", x.block(0, i, j, 0), fresh.block(0, i, j, 0));
+            is(what + ", size", x.block(0, i, j, 1), fresh.block(0, i, j, 1));
+            is(what + ", entry", x.at(0, i, j), fresh.at(0, i, j));
         }
     }
 
@@ -454,6 +494,35 @@ public final class EdgeChangesTest {
         }
     }
 
+    /** Blocks that were deeper do not show up in blocks that calls other than tell() and copy() make whole. */
+    private static void deepBlocksThatBecomeOne() {
+        BlockTrees x = Due.told("(000(000(000f5)))", "d1");
+        is("add", x.add(0, 1, 1), 256);
+        is("add, depth", x.of(0, 1), 0);
+        is("add, CUT ones", x.of(0, 5), 0);
+        x.entry(0, 0, 0, 1);
+        sort("cut again", x, 15, 15, F, 8);
+        x = Due.told("((d0d0d0d0)d0d0(d0d0d0(d0d0d0d0)))");
+        is("shrink", x.shrink(0), 1 + 2 * 16 + 1 + 4 * 8 + 1 + 3 * 8 + 1 + 4 * 4);
+        is("shrink, depth", x.of(0, 1), 0);
+        x.entry(0, 0, 0, 1);
+        sort("cut again", x, 15, 15, E, 8);
+        x = Due.told("(d1d1d1(d1d1d1d1))");
+        is("shrink to one product", x.shrink(0), 1 + 3 * 16 + 1 + 4 * 8 - 32);
+        is("its depth", x.of(0, 1), 0);
+        x.entry(0, 0, 0, 2);
+        sort("cut again", x, 15, 15, T, 8);
+        x = Due.told("((0000)d1d1(0000))");
+        is("tell", Due.tell(x, 0, "d1"), 32);
+        is("tell, depth", x.of(0, 1), 0);
+        x = Due.told("f0", "(000(000d1))");
+        x.add(1, 0, 1);
+        x.clear(1, 0, 0);
+        is("clear", x.of(1, 1), 0);
+        x.entry(1, 0, 0, 2);
+        is("cut again", x.block(1, 15, 15, 1), 8);
+    }
+
     // ---- promise 7
 
     // "A matrix becomes another one."; "BAD_VALUE if both are the same"
@@ -539,10 +608,6 @@ public final class EdgeChangesTest {
     }
 
     // ---- promise 23
-
-    private interface Change {
-        int on(BlockTrees x);
-    }
 
     private static final Change[] CHANGES = {
         x -> {
