@@ -14,6 +14,7 @@ public final class BlockTrees {
     private static final int TRACE_SHIFT = 100000000;
     private static final long NO_PRODUCT = -1000000000000L;
     private static final int NOT_ONE = 0, ONE = 1, ALL_ZERO = 2;
+    private static final long SIGN_BIT = 1L << 63;
     private static final int MOST_SIGNS = 8, CHARACTER_BITS = 8, CHARACTER_MASK = 255, FIRST_SIGN = 33, LAST_SIGN = 126;
 
     private final State now = new State();
@@ -380,7 +381,7 @@ public final class BlockTrees {
         long exponent = top - 8 + bias;
         long behind = (size << (places - top)) - (1L << places);
         long bits = (exponent << places) + behind;
-        return number < 0 ? bits | Long.MIN_VALUE : bits;
+        return number < 0 ? bits | SIGN_BIT : bits;
     }
 
     /** The place of the highest bit that is 1 of a number that is above 0. */

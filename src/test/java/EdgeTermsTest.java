@@ -18,6 +18,7 @@ public final class EdgeTermsTest {
         rooms();
         roomsOfWhatIsCut();
         toldByOneProduct();
+        productsGoWithoutARest();
         emptyOnesStay();
         thinOnes();
         fullOnes();
@@ -221,6 +222,38 @@ public final class EdgeTermsTest {
             x.entry(0, size - 1, size - 1, 1);
             x.entry(0, 0, 0, 0);
             is("all but the first of " + size, x.isOne(0, 0, 0, size), 0);
+        }
+    }
+
+    // "v is the row p divided by g [..] u(i) is the entry (i, q) divided by v(q) (all this goes without a rest)"
+    private static void productsGoWithoutARest() {
+        String[] products = {"u6,10,-15v10,-15,6,0", "u0,0,4,6v0,-6,9,3", "u-999,998v997,-2,0,1", "u0,2v0,0,-2",
+            "u2,-4,6,-8,10,-12,14,-16v3,-6,9,-12,15", "u0,999v0,-999,999", "u-1v0,-1"};
+        for (String product : products) {
+            for (int depth = 0; depth < 4; depth++) {
+                // A sum with zeros makes the block FULL, whose entries are told by the same product then.
+                BlockTrees x = Due.told(at(depth, product), at(depth, "f0"));
+                BlockTrees before = Due.told(at(depth, product));
+                is("FULL of " + product, x.add(0, 1, 1) - x.of(1, 0), 0);
+                is("is FULL " + product, x.block(0, 15, 15, 0), F);
+                x.shrink(0);
+                is("is THIN " + product, x.block(0, 15, 15, 0), before.of(0, 6) == 0 ? E : T);
+                sameEntries("of " + product, x, before);
+                x.turn(0);
+                before.turn(0);
+                x.entry(0, 15, 15, 1);
+                before.entry(0, 15, 15, 1);
+                sameEntries("the halves of " + product, x, before);
+            }
+        }
+    }
+
+    /** The matrices 0 of both: their entries near the diagonal, which are less than 200. */
+    private static void sameEntries(String what, BlockTrees x, BlockTrees before) {
+        for (int i = 0; i < 16; i++) {
+            for (int j = Math.max(0, i - 4); j < Math.min(16, i + 5); j++) {
+                is(what + ", entry " + i + ", " + j, x.at(0, i, j), before.at(0, i, j));
+            }
         }
     }
 

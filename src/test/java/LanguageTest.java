@@ -30,7 +30,8 @@ public final class LanguageTest {
         "\\bsynchronized\\b", "\\bassert\\b", "\\bthrow\\b", "\\bDouble\\b", "\\bFloat\\b", "\\bdouble\\b",
         "\\bfloat\\b", "\\bInteger\\b", "Exact\\(", "\\bObject\\b", "\\bString\\b", "\\bhashCode\\b", "\\bequals\\b",
         "\\btoString\\b", "\\bSystem\\.(?!arraycopy)", "\\bMath\\.(?!max\\(|min\\(|abs\\()",
-        "\\bLong\\.(?!MIN_VALUE)"};
+        "\\bLong\\b", "\\binstanceof\\b", "\\bnative\\b", "\\btransient\\b", "\\bvolatile\\b", "\\bstrictfp\\b",
+        "\\bvar\\b", "\\bstatic \\{", "@", "[^\\x00-\\x7f]"};
 
     private static final Due due = new Due();
 
@@ -98,6 +99,10 @@ public final class LanguageTest {
             due.holds(inside + " is not public", !Modifier.isPublic(modifiers) && !Modifier.isProtected(modifiers));
             due.holds(inside + " is static", Modifier.isStatic(modifiers));
             due.holds(inside + " has at most some twenty fields", inside.getDeclaredFields().length <= 20);
+            for (Method method : inside.getDeclaredMethods()) {
+                due.holds(method + " bears no name of the face",
+                        Arrays.stream(METHODS).noneMatch(face -> face.contains(" " + method.getName() + "(")));
+            }
             for (Field field : inside.getDeclaredFields()) {
                 int f = field.getModifiers();
                 due.holds(field + " is no static state", !Modifier.isStatic(f) || Modifier.isFinal(f));
