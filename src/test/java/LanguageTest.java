@@ -43,6 +43,7 @@ public final class LanguageTest {
             due.holds("the file has no " + forbidden, !Pattern.compile(forbidden).matcher(code).find());
         }
         checkMethods(code);
+        checkHeadings(Files.readString(Path.of("src/main/java/BlockTrees.java")));
         due.finish();
     }
 
@@ -147,5 +148,24 @@ public final class LanguageTest {
             due.holds(name + " makes nothing", !makes || Character.isUpperCase(name.charAt(0)));
         }
         due.holds("there are methods", methods > 60);
+    }
+
+    /** "Ahead of the calls .. the interface says": the calls stand in the document's order, behind these words. */
+    private static void checkHeadings(String text) {
+        String[] headings = {"changes", "what there is", "what if; nothing changes", "texts", "undo, saving"};
+        int[] firstCalls = {0, 7, 14, 18, 21};
+        int place = 0;
+        int heading = 0;
+        for (int call = 0; call < METHODS.length; call++) {
+            if (heading < headings.length && firstCalls[heading] == call) {
+                place = text.indexOf("// ---- " + headings[heading] + "\n", place);
+                due.holds("ahead of " + METHODS[call] + " stands: " + headings[heading], place >= 0);
+                place = Math.max(place, 0);
+                heading++;
+            }
+            place = text.indexOf("    public " + METHODS[call].replaceAll("\\(.*", "("), place);
+            due.holds("in its order: " + METHODS[call], place >= 0);
+            place = Math.max(place, 0);
+        }
     }
 }
